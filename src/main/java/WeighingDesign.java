@@ -780,7 +780,6 @@ public final class WeighingDesign {
             sums = new long[MAX_UNKNOWNS];
             minors = new long[1 << MAX_UNKNOWNS];
             numerators = new long[MAX_UNKNOWNS];
-            unknowns = UNKNOWN_MASSES;
         }
 
         boolean isWhole(Design design) {

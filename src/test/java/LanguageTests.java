@@ -87,12 +87,13 @@ public final class LanguageTests {
         }
     }
 
+    /** Some of these words the rules leave; the class does without them, and so the look is plain. */
     private static void text() throws Exception {
         String source = Files.readString(Path.of(PROGRAM), StandardCharsets.ISO_8859_1);
         String code = Pattern.compile("/\\*.*?\\*/|//[^\n]*", Pattern.DOTALL).matcher(source).replaceAll(" ");
         String[] words = {"throw", "throws", "try", "catch", "synchronized", "assert", "import", "package",
             "equals", "hashCode", "toString", "Exact", "volatile", "transient", "native", "float", "double",
-            "yield", "goto", "Object", "Random", "Thread", "System"};
+            "Object", "Random", "Thread", "nanoTime", "currentTimeMillis", "getenv", "out"};
         for (String word : words) {
             due("the word " + word, Pattern.compile("\\b" + word + "\\b").matcher(code).find(), false);
         }

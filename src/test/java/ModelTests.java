@@ -13,7 +13,7 @@ public final class ModelTests {
     private static final long FULL = -2000000003L;
     private static final long NOTHING = -2000000004L;
 
-    private static final int RUNS = 600;
+    private static final int RUNS = 400;
     private static final int CALLS = 512;
     private static final int MOST_SHOWN = 20;
 
@@ -60,13 +60,45 @@ public final class ModelTests {
         Model m = new Model();
         rowKind = below(3);
         readingKind = below(3);
-        for (int call = 0; call < CALLS; call++) {
+        int filled = run % 4 == 0 ? fill(run, x, m) : 0;
+        for (int call = filled; call < CALLS; call++) {
             int before = wrong;
             step(run, call, x, m);
             if (wrong != before) {
                 return;
             }
         }
+    }
+
+    /** All rows and readings, with all masses in a row and the widest readings: the largest numbers. */
+    private static int fill(int run, WeighingDesign x, Model m) {
+        int call = 0;
+        due(run, call++, "set(1, " + run % 8 / 4 + ")", x.set(1, run % 8 / 4), m.set(1, run % 8 / 4));
+        int standard = oneOf(-100000, 100000);
+        due(run, call++, "set(0, " + standard + ")", x.set(0, standard), m.set(0, standard));
+        for (int tries = 0; tries < 60 && m.rows.size() < 12; tries++) {
+            int left = 1 + below(30);
+            due(run, call++, "addRow(" + left + ", ..)", x.addRow(left, 31 - left), m.addRow(left, 31 - left));
+        }
+        for (int row = 0; row < m.rows.size(); row++) {
+            for (int n = 0; n < 6; n++) {
+                int reading = below(6) == 0 ? someReading() : oneOf(-100000, 100000);
+                due(run, call++, "take(" + row + ", " + reading + ")", x.take(row, reading), m.take(row, reading));
+            }
+        }
+        for (int mass = 0; mass < 5; mass++) {
+            due(run, call++, "value(" + mass + ", 0)", x.value(mass, 0), m.value(mass, 0));
+            due(run, call++, "value(" + mass + ", 1)", x.value(mass, 1), m.value(mass, 1));
+            due(run, call++, "balance(" + mass + ", 0)", x.balance(mass, 0), m.balance(mass, 0));
+            due(run, call++, "balance(" + mass + ", 1)", x.balance(mass, 1), m.balance(mass, 1));
+        }
+        due(run, call++, "worst(0)", x.worst(0), m.worst(0));
+        due(run, call++, "worst(1)", x.worst(1), m.worst(1));
+        for (int row = 0; row < m.rows.size(); row++) {
+            due(run, call++, "residual(" + row + ", 5, 0)", x.residual(row, 5, 0), m.residual(row, 5, 0));
+            due(run, call++, "without(" + row + ", 5, 4, 0)", x.without(row, 5, 4, 0), m.without(row, 5, 4, 0));
+        }
+        return call;
     }
 
     private static void step(int run, int call, WeighingDesign x, Model m) {

@@ -277,6 +277,7 @@ public final class PromiseTests {
 
     private static void neededRow() {
         about = "promise 7, needed";
+        due("count(13) of the star", star().count(13), 4);
         WeighingDesign x = loop();
         x.addRow(16, 1);
         long[] needed = {0, 0, 0, 1, 1, 0};
@@ -357,6 +358,10 @@ public final class PromiseTests {
         weigh(z, 16, 1, 0);
         due("count(9)", z.count(9), 2);
         due("count(10)", z.count(10), 3);
+        z.dropRow(1);
+        z.dropRow(0);
+        due("count(9)", z.count(9), 1);
+        due("count(10) without mass 1", z.count(10), 2);
     }
 
     private static void undo() {
@@ -552,6 +557,15 @@ public final class PromiseTests {
         WeighingDesign x = star();
         due("worst(0) of equal ones", x.worst(0), 0);
         due("worst(1) of equal ones", x.worst(1), 0);
+        x.addRow(2, 4);
+        x.take(4, 10);
+        x.take(0, 10);
+        x.dropReading(0, 1);
+        x.dropReading(0, 0);
+        due("worst(0) of equal ones, row 0 without readings", x.worst(0), 1);
+        due("worst(1) of equal ones, row 0 without readings", x.worst(1), 0);
+        x.take(0, 10);
+        x.dropRow(4);
         x.take(2, 36);
         x.take(3, 46);
         due("worst(0), the lowest row", x.worst(0), 2);
@@ -610,7 +624,9 @@ public final class PromiseTests {
         for (int mass = 0; mass < 5; mass++) {
             due("chain(" + mass + ")", x.chain(mass), mass);
         }
+        int before = x.count(10);
         weigh(x, 9, 2, 0);
+        due("count(10) of four links", before, 5);
         due("chain(3) on the same pan", x.chain(3), 1);
         due("chain(2)", x.chain(2), 2);
         due("chain(4)", x.chain(4), 2);
@@ -637,6 +653,8 @@ public final class PromiseTests {
         dueFraction("panBy(2)", x.panBy(2, 0), x.panBy(2, 1), 0, 1);
         x.take(3, -3);
         dueFraction("panBy(3)", x.panBy(3, 0), x.panBy(3, 1), -1, 2);
+        x.dropReading(3, 0);
+        dueFraction("panBy(3)", x.panBy(3, 0), x.panBy(3, 1), -1, 1);
     }
 
     private static void suspectPan() {
@@ -669,6 +687,11 @@ public final class PromiseTests {
         weigh(x, 16, 8, 2);
         weigh(x, 8, 16, 2, 1);
         due("mostSuspect(), the lowest of equal ones", x.mostSuspect(), 3);
+        x.dropRow(0);
+        x.take(0, 100);
+        due("mostSuspect(), the row 0", x.mostSuspect(), 0);
+        x.undo();
+        x.undo();
         x.take(5, 3);
         due("mostSuspect()", x.mostSuspect(), 5);
         x.dropRow(4);
@@ -700,6 +723,7 @@ public final class PromiseTests {
         WeighingDesign x = new WeighingDesign();
         due("clearText() of nothing", x.clearText(), 0);
         typeAll(x, "0:1=5;0:");
+        due("fault(0)", x.fault(0), 6);
         due("clearText()", x.clearText(), 8);
         due("count(12)", x.count(12), 0);
         due("fault(0)", x.fault(0), NOTHING);
@@ -815,5 +839,32 @@ public final class PromiseTests {
         dueFraction("pan", x.pan(0), x.pan(1), 200000, 1);
         dueValue(x, 1, 0, 1);
         dueBalance(x, 0, 0, 1);
+        fullDesign(x);
+    }
+
+    /** Twelve rows of six readings, none of them swapped: each loop goes to its very end. */
+    private static void fullDesign(WeighingDesign x) {
+        due("count(8)", x.count(8), 0);
+        due("count(9)", x.count(9), 0);
+        due("count(10)", x.count(10), 5);
+        due("count(13)", x.count(13), 0);
+        due("worst(0)", x.worst(0), 0);
+        due("mostSuspect()", x.mostSuspect(), NOTHING);
+        due("find(16, 15)", x.find(16, 15), NOTHING);
+        due("row(11, 3)", x.row(11, 3), NOTHING);
+        dueResidual(x, 11, 5, 0, 1);
+        dueFraction("mean(11)", x.mean(11, 0), x.mean(11, 1), 100000, 1);
+        dueFault(x, "0123:4=1;", 0, 4);
+        dueFault(x, "4:0=1;", 0, 4);
+        due("dropReading(11, 5)", x.dropReading(11, 5), 5);
+        due("dropReading(11, 0)", x.dropReading(11, 0), 4);
+        due("undo()", x.undo(), 4);
+        due("dropRow(11)", x.dropRow(11), 11);
+        due("dropRow(0)", x.dropRow(0), 10);
+        due("undo()", x.undo(), 4);
+        due("undo()", x.undo(), 3);
+        due("undo()", x.undo(), 2);
+        due("row(11, 2)", x.row(11, 2), 6);
+        due("row(0, 1)", x.row(0, 1), 30);
     }
 }
