@@ -13,17 +13,18 @@ public final class ModelTests {
     private static final long FULL = -2000000003L;
     private static final long NOTHING = -2000000004L;
 
-    private static final int RUNS = 400;
+    private static final int RUNS = 1600;
     private static final int CALLS = 512;
     private static final int MOST_SHOWN = 20;
 
     private static int wrong = 0;
+    private static int run = 0;
+    private static int calls = 0;
     private static long seed = 1;
 
     public static void main(String[] args) {
-        for (int run = 0; run < RUNS && wrong < MOST_SHOWN; run++) {
-            seed = 1000003L * run + 17;
-            run(run);
+        for (run = 0; run < RUNS && wrong < MOST_SHOWN; run++) {
+            runOnce();
         }
         System.out.println(wrong == 0 ? "all answers are as due" : wrong + " answers are not as due");
         if (wrong != 0) {
@@ -41,10 +42,12 @@ public final class ModelTests {
         return choices[below(choices.length)];
     }
 
-    private static void due(int run, int call, String told, long got, long want) {
-        if (got != want && wrong < MOST_SHOWN) {
+    /** Of each call on the object of a run; what it answers beyond the last call is free. */
+    private static void due(String told, long got, long want) {
+        calls++;
+        if (got != want && calls <= CALLS && wrong < MOST_SHOWN) {
             wrong++;
-            System.out.println("run " + run + ", call " + call + ": " + told
+            System.out.println("run " + run + ", call " + calls + ": " + told
                     + " answered " + got + ", due is " + want);
         }
     }
@@ -55,60 +58,60 @@ public final class ModelTests {
     private static int rowKind;
     private static int readingKind;
 
-    private static void run(int run) {
+    private static void runOnce() {
         WeighingDesign x = new WeighingDesign();
         Model m = new Model();
+        seed = 1000003L * run + 17;
+        calls = 0;
         rowKind = below(3);
         readingKind = below(3);
-        int filled = run % 4 == 0 ? fill(run, x, m) : 0;
-        for (int call = filled; call < CALLS; call++) {
-            int before = wrong;
-            step(run, call, x, m);
-            if (wrong != before) {
-                return;
-            }
+        if (run % 4 == 0) {
+            fill(x, m);
+        }
+        int before = wrong;
+        while (calls < CALLS && wrong == before) {
+            step(x, m);
         }
     }
 
     /** All rows and readings, with all masses in a row and the widest readings: the largest numbers. */
-    private static int fill(int run, WeighingDesign x, Model m) {
-        int call = 0;
-        due(run, call++, "set(1, " + run % 8 / 4 + ")", x.set(1, run % 8 / 4), m.set(1, run % 8 / 4));
+    private static void fill(WeighingDesign x, Model m) {
+        int pan = run % 8 / 4;
+        due("set(1, " + pan + ")", x.set(1, pan), m.set(1, pan));
         int standard = oneOf(-100000, 100000);
-        due(run, call++, "set(0, " + standard + ")", x.set(0, standard), m.set(0, standard));
+        due("set(0, " + standard + ")", x.set(0, standard), m.set(0, standard));
         for (int tries = 0; tries < 60 && m.rows.size() < 12; tries++) {
             int left = 1 + below(30);
-            due(run, call++, "addRow(" + left + ", ..)", x.addRow(left, 31 - left), m.addRow(left, 31 - left));
+            due("addRow(" + left + ", ..)", x.addRow(left, 31 - left), m.addRow(left, 31 - left));
         }
         for (int row = 0; row < m.rows.size(); row++) {
             for (int n = 0; n < 6; n++) {
                 int reading = below(6) == 0 ? someReading() : oneOf(-100000, 100000);
-                due(run, call++, "take(" + row + ", " + reading + ")", x.take(row, reading), m.take(row, reading));
+                due("take(" + row + ", " + reading + ")", x.take(row, reading), m.take(row, reading));
             }
         }
         for (int mass = 0; mass < 5; mass++) {
-            due(run, call++, "value(" + mass + ", 0)", x.value(mass, 0), m.value(mass, 0));
-            due(run, call++, "value(" + mass + ", 1)", x.value(mass, 1), m.value(mass, 1));
-            due(run, call++, "balance(" + mass + ", 0)", x.balance(mass, 0), m.balance(mass, 0));
-            due(run, call++, "balance(" + mass + ", 1)", x.balance(mass, 1), m.balance(mass, 1));
+            due("value(" + mass + ", 0)", x.value(mass, 0), m.value(mass, 0));
+            due("value(" + mass + ", 1)", x.value(mass, 1), m.value(mass, 1));
+            due("balance(" + mass + ", 0)", x.balance(mass, 0), m.balance(mass, 0));
+            due("balance(" + mass + ", 1)", x.balance(mass, 1), m.balance(mass, 1));
         }
-        due(run, call++, "worst(0)", x.worst(0), m.worst(0));
-        due(run, call++, "worst(1)", x.worst(1), m.worst(1));
+        due("worst(0)", x.worst(0), m.worst(0));
+        due("worst(1)", x.worst(1), m.worst(1));
         for (int row = 0; row < m.rows.size(); row++) {
-            due(run, call++, "residual(" + row + ", 5, 0)", x.residual(row, 5, 0), m.residual(row, 5, 0));
-            due(run, call++, "without(" + row + ", 5, 4, 0)", x.without(row, 5, 4, 0), m.without(row, 5, 4, 0));
+            due("residual(" + row + ", 5, 0)", x.residual(row, 5, 0), m.residual(row, 5, 0));
+            due("without(" + row + ", 5, 4, 0)", x.without(row, 5, 4, 0), m.without(row, 5, 4, 0));
         }
-        return call;
     }
 
-    private static void step(int run, int call, WeighingDesign x, Model m) {
+    private static void step(WeighingDesign x, Model m) {
         int dice = below(100);
         if (dice < 45) {
-            change(run, call, x, m);
+            change(x, m);
         } else if (dice < 55) {
-            text(run, call, x, m);
+            text(x, m);
         } else {
-            ask(run, call, x, m);
+            ask(x, m);
         }
     }
 
@@ -167,48 +170,48 @@ public final class ModelTests {
         return rowKind == 2 && below(8) != 0 ? right & ~left : right;
     }
 
-    private static void change(int run, int call, WeighingDesign x, Model m) {
+    private static void change(WeighingDesign x, Model m) {
         int dice = below(100);
         if (dice < 10) {
             int what = below(20) == 0 ? oneOf(-1, 3, Integer.MIN_VALUE) : below(3);
             int value = what == 1 ? below(10) == 0 ? oneOf(-1, 2) : below(2) : someReading();
-            due(run, call, "set(" + what + ", " + value + ")", x.set(what, value), m.set(what, value));
+            due("set(" + what + ", " + value + ")", x.set(what, value), m.set(what, value));
         } else if (dice < 35) {
             int left = someLeft();
             int right = someRight(left);
-            due(run, call, "addRow(" + left + ", " + right + ")", x.addRow(left, right), m.addRow(left, right));
+            due("addRow(" + left + ", " + right + ")", x.addRow(left, right), m.addRow(left, right));
         } else if (dice < 40) {
             int row = someRow(m);
-            due(run, call, "dropRow(" + row + ")", x.dropRow(row), m.dropRow(row));
+            due("dropRow(" + row + ")", x.dropRow(row), m.dropRow(row));
         } else if (dice < 85) {
             int row = someRow(m);
             int reading = someReading();
-            due(run, call, "take(" + row + ", " + reading + ")", x.take(row, reading), m.take(row, reading));
+            due("take(" + row + ", " + reading + ")", x.take(row, reading), m.take(row, reading));
         } else if (dice < 92) {
             int row = someRow(m);
             int number = someNumber(m, row);
-            due(run, call, "dropReading(" + row + ", " + number + ")",
+            due("dropReading(" + row + ", " + number + ")",
                     x.dropReading(row, number), m.dropReading(row, number));
         } else {
-            due(run, call, "undo()", x.undo(), m.undo());
+            due("undo()", x.undo(), m.undo());
         }
     }
 
-    private static void text(int run, int call, WeighingDesign x, Model m) {
+    private static void text(WeighingDesign x, Model m) {
         if (below(3) == 0 || m.text.length() > 60) {
-            due(run, call, "clearText()", x.clearText(), m.clearText());
+            due("clearText()", x.clearText(), m.clearText());
         }
         int rows = 1 + below(4);
         for (int i = 0; i < rows; i++) {
             String row = someTextRow();
             for (int k = 0; k < row.length(); k++) {
                 int c = below(400) == 0 ? oneOf(31, 127, 32, 126, 59, 58, -1, 65584) : row.charAt(k);
-                due(run, call, "type(" + c + ")", x.type(c), m.type(c));
+                due("type(" + c + ")", x.type(c), m.type(c));
             }
         }
         int what = below(25) == 0 ? oneOf(-1, 2) : below(2);
-        due(run, call, "fault(" + what + ") of " + m.text, x.fault(what), m.fault(what));
-        due(run, call, "enter() of " + m.text, x.enter(), m.enter());
+        due("fault(" + what + ") of " + m.text, x.fault(what), m.fault(what));
+        due("enter() of " + m.text, x.enter(), m.enter());
     }
 
     private static String someTextRow() {
@@ -235,7 +238,7 @@ public final class ModelTests {
         return digits.toString();
     }
 
-    private static void ask(int run, int call, WeighingDesign x, Model m) {
+    private static void ask(WeighingDesign x, Model m) {
         int row = someRow(m);
         int number = someNumber(m, row);
         int mass = someMass();
@@ -243,52 +246,52 @@ public final class ModelTests {
         switch (below(14)) {
             case 0:
                 int what = below(30) == 0 ? oneOf(-1, 5) : below(5);
-                due(run, call, "row(" + row + ", " + what + ")", x.row(row, what), m.row(row, what));
+                due("row(" + row + ", " + what + ")", x.row(row, what), m.row(row, what));
                 break;
             case 1:
-                due(run, call, "reading(" + row + ", " + number + ")", x.reading(row, number), m.reading(row, number));
+                due("reading(" + row + ", " + number + ")", x.reading(row, number), m.reading(row, number));
                 break;
             case 2:
                 int left = someLeft();
                 int right = someRight(left);
-                due(run, call, "find(" + left + ", " + right + ")", x.find(left, right), m.find(left, right));
+                due("find(" + left + ", " + right + ")", x.find(left, right), m.find(left, right));
                 break;
             case 3:
                 for (int n = -1; n < 15; n++) {
-                    due(run, call, "count(" + n + ")", x.count(n), m.count(n));
+                    due("count(" + n + ")", x.count(n), m.count(n));
                 }
                 break;
             case 4:
-                due(run, call, "value(" + mass + ", " + part + ")", x.value(mass, part), m.value(mass, part));
+                due("value(" + mass + ", " + part + ")", x.value(mass, part), m.value(mass, part));
                 break;
             case 5:
-                due(run, call, "pan(" + part + ")", x.pan(part), m.pan(part));
+                due("pan(" + part + ")", x.pan(part), m.pan(part));
                 break;
             case 6:
-                due(run, call, "residual(" + row + ", " + number + ", " + part + ")",
+                due("residual(" + row + ", " + number + ", " + part + ")",
                         x.residual(row, number, part), m.residual(row, number, part));
                 break;
             case 7:
-                due(run, call, "balance(" + mass + ", " + part + ")", x.balance(mass, part), m.balance(mass, part));
+                due("balance(" + mass + ", " + part + ")", x.balance(mass, part), m.balance(mass, part));
                 break;
             case 8:
-                due(run, call, "mean(" + row + ", " + part + ")", x.mean(row, part), m.mean(row, part));
+                due("mean(" + row + ", " + part + ")", x.mean(row, part), m.mean(row, part));
                 break;
             case 9:
-                due(run, call, "worst(" + part + ")", x.worst(part), m.worst(part));
+                due("worst(" + part + ")", x.worst(part), m.worst(part));
                 break;
             case 10:
-                due(run, call, "without(" + row + ", " + number + ", " + mass + ", " + part + ")",
+                due("without(" + row + ", " + number + ", " + mass + ", " + part + ")",
                         x.without(row, number, mass, part), m.without(row, number, mass, part));
                 break;
             case 11:
-                due(run, call, "chain(" + mass + ")", x.chain(mass), m.chain(mass));
+                due("chain(" + mass + ")", x.chain(mass), m.chain(mass));
                 break;
             case 12:
-                due(run, call, "panBy(" + row + ", " + part + ")", x.panBy(row, part), m.panBy(row, part));
+                due("panBy(" + row + ", " + part + ")", x.panBy(row, part), m.panBy(row, part));
                 break;
             default:
-                due(run, call, "mostSuspect()", x.mostSuspect(), m.mostSuspect());
+                due("mostSuspect()", x.mostSuspect(), m.mostSuspect());
                 break;
         }
     }

@@ -1,14 +1,6 @@
 // One method for each promise of the document: ordinary inputs, the edges that it names, and wrong
 // inputs. The answers that are due are worked out by hand.
-public final class PromiseTests {
-    private static final long INVALID = -2000000001L;
-    private static final long IMPOSSIBLE = -2000000002L;
-    private static final long FULL = -2000000003L;
-    private static final long NOTHING = -2000000004L;
-
-    private static int wrong = 0;
-    private static String about = "";
-
+public final class PromiseTests extends Checks {
     public static void main(String[] args) {
         constants();
         newObject();
@@ -43,79 +35,7 @@ public final class PromiseTests {
         faultOfRoom();
         enter();
         largestNumbers();
-        System.out.println(wrong == 0 ? "all answers are as due" : wrong + " answers are not as due");
-        if (wrong != 0) {
-            System.exit(1);
-        }
-    }
-
-    private static void due(String call, long got, long want) {
-        if (got != want) {
-            wrong++;
-            System.out.println(about + ": " + call + " answered " + got + ", due is " + want);
-        }
-    }
-
-    private static void dueFraction(String call, long above, long below, long wantAbove, long wantBelow) {
-        due(call + " numerator", above, wantAbove);
-        due(call + " denominator", below, wantBelow);
-    }
-
-    private static void dueValue(WeighingDesign x, int mass, long above, long below) {
-        dueFraction("value(" + mass + ")", x.value(mass, 0), x.value(mass, 1), above, below);
-    }
-
-    private static void dueResidual(WeighingDesign x, int row, int n, long above, long below) {
-        dueFraction("residual(" + row + ", " + n + ")",
-                x.residual(row, n, 0), x.residual(row, n, 1), above, below);
-    }
-
-    private static void dueBalance(WeighingDesign x, int mass, long above, long below) {
-        dueFraction("balance(" + mass + ")", x.balance(mass, 0), x.balance(mass, 1), above, below);
-    }
-
-    private static void dueFault(WeighingDesign x, String text, long position, long reason) {
-        x.clearText();
-        typeAll(x, text);
-        due("fault(0) of " + text, x.fault(0), position);
-        due("fault(1) of " + text, x.fault(1), reason);
-        int changes = x.count(11);
-        due("enter() of " + text, x.enter(), IMPOSSIBLE);
-        due("count(11) after " + text, x.count(11), changes);
-    }
-
-    private static void typeAll(WeighingDesign x, String text) {
-        for (int i = 0; i < text.length(); i++) {
-            x.type(text.charAt(i));
-        }
-    }
-
-    private static void weigh(WeighingDesign x, int left, int right, int... readings) {
-        int row = x.addRow(left, right);
-        for (int reading : readings) {
-            x.take(row, reading);
-        }
-    }
-
-    /** The standard against each mass, which is so much lighter: 10, 20, 30 and 40. */
-    private static WeighingDesign star() {
-        WeighingDesign x = new WeighingDesign();
-        weigh(x, 1, 2, 10);
-        weigh(x, 1, 4, 20);
-        weigh(x, 1, 8, 30);
-        weigh(x, 1, 16, 40);
-        return x;
-    }
-
-    /** Masses 1 and 2 are weighed in three rows that disagree by 4, 3 and 4 alone. */
-    private static WeighingDesign loop() {
-        WeighingDesign x = new WeighingDesign();
-        weigh(x, 3, 4, 4);
-        weigh(x, 1, 2, 0);
-        weigh(x, 1, 4, 0);
-        weigh(x, 1, 8, 5);
-        weigh(x, 1, 16, 6);
-        return x;
+        finish();
     }
 
     private static void constants() {
@@ -471,20 +391,20 @@ public final class PromiseTests {
     private static void pan() {
         about = "promise 13";
         WeighingDesign x = star();
-        dueFraction("pan with the pan 0", x.pan(0), x.pan(1), 0, 1);
+        duePan(x, 0, 1);
         x.set(1, 1);
         due("pan(0) if it is not whole", x.pan(0), IMPOSSIBLE);
         weigh(x, 2, 1, -4);
-        dueFraction("pan", x.pan(0), x.pan(1), 3, 1);
+        duePan(x, 3, 1);
         dueValue(x, 1, -7, 1);
         dueValue(x, 2, -17, 1);
         x.take(4, -3);
-        dueFraction("pan", x.pan(0), x.pan(1), 13, 4);
+        duePan(x, 13, 4);
         dueValue(x, 1, -27, 4);
         due("pan(2)", x.pan(2), INVALID);
         due("pan(-1)", x.pan(-1), INVALID);
         x.set(1, 0);
-        dueFraction("pan with the pan 0", x.pan(0), x.pan(1), 0, 1);
+        duePan(x, 0, 1);
         x.dropRow(1);
         due("pan(0) with the pan 0, if it is not whole", x.pan(0), IMPOSSIBLE);
         due("pan(2) if it is not whole", x.pan(2), INVALID);
@@ -543,9 +463,9 @@ public final class PromiseTests {
         weigh(x, 1, 4, -5, 1, 0, -3);
         weigh(x, 1, 8);
         weigh(x, 1, 16, 4, -4);
-        dueFraction("mean(0)", x.mean(0, 0), x.mean(0, 1), 11, 1);
-        dueFraction("mean(1)", x.mean(1, 0), x.mean(1, 1), -7, 4);
-        dueFraction("mean(3)", x.mean(3, 0), x.mean(3, 1), 0, 1);
+        dueMean(x, 0, 11, 1);
+        dueMean(x, 1, -7, 4);
+        dueMean(x, 3, 0, 1);
         due("mean(2, 0)", x.mean(2, 0), NOTHING);
         due("mean(2, 2)", x.mean(2, 2), INVALID);
         due("mean(4, 0)", x.mean(4, 0), INVALID);
@@ -588,9 +508,9 @@ public final class PromiseTests {
         WeighingDesign x = star();
         x.take(0, 13);
         x.take(0, 14);
-        dueFraction("without(0, 1, 1)", x.without(0, 1, 1, 0), x.without(0, 1, 1, 1), -12, 1);
-        dueFraction("without(0, 0, 1)", x.without(0, 0, 1, 0), x.without(0, 0, 1, 1), -27, 2);
-        dueFraction("without(0, 0, 4)", x.without(0, 0, 4, 0), x.without(0, 0, 4, 1), -40, 1);
+        dueWithout(x, 0, 1, 1, -12, 1);
+        dueWithout(x, 0, 0, 1, -27, 2);
+        dueWithout(x, 0, 0, 4, -40, 1);
         dueValue(x, 1, -37, 3);
         due("without(1, 0, 1, 0) of a needed one", x.without(1, 0, 1, 0), IMPOSSIBLE);
         due("without(1, 0, 0, 0)", x.without(1, 0, 0, 0), INVALID);
@@ -599,7 +519,7 @@ public final class PromiseTests {
         due("without(4, 0, 1, 0)", x.without(4, 0, 1, 0), INVALID);
         due("without(0, 0, 1, 2)", x.without(0, 0, 1, 2), INVALID);
         x.set(0, 5);
-        dueFraction("without(0, 1, 1)", x.without(0, 1, 1, 0), x.without(0, 1, 1, 1), -7, 1);
+        dueWithout(x, 0, 1, 1, -7, 1);
         WeighingDesign y = star();
         weigh(y, 2, 1, -4, -3);
         y.set(1, 1);
@@ -642,19 +562,19 @@ public final class PromiseTests {
         weigh(x, 4, 3, -4);
         weigh(x, 4, 8, 1);
         weigh(x, 8, 4);
-        dueFraction("panBy(0)", x.panBy(0, 0), x.panBy(0, 1), 15, 4);
-        dueFraction("panBy(1)", x.panBy(1, 0), x.panBy(1, 1), 15, 4);
+        duePanBy(x, 0, 15, 4);
+        duePanBy(x, 1, 15, 4);
         due("panBy(2, 0)", x.panBy(2, 0), NOTHING);
         due("panBy(3, 1)", x.panBy(3, 1), NOTHING);
         due("panBy(3, 2)", x.panBy(3, 2), INVALID);
         due("panBy(4, 0)", x.panBy(4, 0), INVALID);
         due("panBy(-1, 0)", x.panBy(-1, 0), INVALID);
         x.take(3, -1);
-        dueFraction("panBy(2)", x.panBy(2, 0), x.panBy(2, 1), 0, 1);
+        duePanBy(x, 2, 0, 1);
         x.take(3, -3);
-        dueFraction("panBy(3)", x.panBy(3, 0), x.panBy(3, 1), -1, 2);
+        duePanBy(x, 3, -1, 2);
         x.dropReading(3, 0);
-        dueFraction("panBy(3)", x.panBy(3, 0), x.panBy(3, 1), -1, 1);
+        duePanBy(x, 3, -1, 1);
     }
 
     private static void suspectPan() {
@@ -836,7 +756,7 @@ public final class PromiseTests {
         for (int mass = 1; mass < 5; mass++) {
             dueBalance(x, mass, 0, 1);
         }
-        dueFraction("pan", x.pan(0), x.pan(1), 200000, 1);
+        duePan(x, 200000, 1);
         dueValue(x, 1, 0, 1);
         dueBalance(x, 0, 0, 1);
         fullDesign(x);
