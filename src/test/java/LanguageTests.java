@@ -6,6 +6,10 @@ import java.lang.reflect.Modifier;
 import java.nio.charset.StandardCharsets;
 import java.nio.file.Files;
 import java.nio.file.Path;
+import java.util.Arrays;
+import java.util.Comparator;
+import java.util.HashMap;
+import java.util.Map;
 import java.util.Set;
 import java.util.TreeSet;
 import java.util.regex.Matcher;
@@ -23,6 +27,7 @@ public final class LanguageTests {
         insideClasses();
         text();
         room();
+        anyArguments();
         System.out.println(wrong == 0 ? "all answers are as due" : wrong + " answers are not as due");
         if (wrong != 0) {
             System.exit(1);
@@ -72,6 +77,11 @@ public final class LanguageTests {
         }
         due("the face", got, want);
         due("the class", Modifier.toString(WeighingDesign.class.getModifiers()), "public final");
+        for (Class<?> c : WeighingDesign.class.getDeclaredClasses()) {
+            for (Method m : c.getDeclaredMethods()) {
+                hidden.add(m.getName());
+            }
+        }
         for (String name : hidden) {
             due("public method with the private name " + name, methods.contains(" " + name + " "), false);
         }
@@ -80,10 +90,30 @@ public final class LanguageTests {
     private static void insideClasses() {
         Class<?>[] inside = WeighingDesign.class.getDeclaredClasses();
         due("at most twelve classes", inside.length <= 11, true);
+        members(WeighingDesign.class);
         for (Class<?> c : inside) {
             due(c + " static", Modifier.isStatic(c.getModifiers()), true);
             due(c + " public or protected", (c.getModifiers() & (Modifier.PUBLIC | Modifier.PROTECTED)) != 0, false);
-            due(c + " with few fields", c.getDeclaredFields().length <= 20, true);
+            due(c + " without classes of its own", c.getDeclaredClasses().length, 0);
+            members(c);
+        }
+    }
+
+    /** What all objects share is a constant: another one's calls change nothing of an object. */
+    private static void members(Class<?> c) {
+        Set<Class<?>> constants = Set.of(int.class, long.class, boolean.class, char.class, String.class);
+        int fields = 0;
+        for (Field f : c.getDeclaredFields()) {
+            if (Modifier.isStatic(f.getModifiers())) {
+                boolean constant = Modifier.isFinal(f.getModifiers()) && constants.contains(f.getType());
+                due(f + " a constant", constant, true);
+            } else {
+                fields++;
+            }
+        }
+        due(c + " with few fields", fields <= 20, true);
+        for (Method m : c.getDeclaredMethods()) {
+            due(m + " with few parameters", m.getParameterCount() <= 7, true);
         }
     }
 
@@ -99,20 +129,63 @@ public final class LanguageTests {
         }
         due("a lambda or a method reference", code.contains("->") || code.contains("::"), false);
         due("a sign beyond 127", Pattern.compile("[^\\x00-\\x7f]").matcher(source).find(), false);
-        longestMethod(code);
+        Map<String, String> methods = methodsOf(code);
+        due("methods found", methods.size() > 60, true);
+        Map<String, Integer> known = new HashMap<>();
+        for (String name : methods.keySet()) {
+            due("calls from " + name + " at most eight deep", openFrom(name, methods, known) <= 8, true);
+        }
     }
 
-    /** A method begins at an opening brace behind a list of parameters; sixty lines are short. */
-    private static void longestMethod(String code) {
-        Matcher opening = Pattern.compile("\\n( {4}| {8})(\\w[^;={}\\n]*\\))\\s*\\{\\n").matcher(code);
-        int methods = 0;
+    /**
+     * The bodies by the methods' names, those of one name together. A method begins at an opening
+     * brace behind a list of parameters; sixty lines are short.
+     */
+    private static Map<String, String> methodsOf(String code) {
+        Matcher opening = Pattern.compile("\\n( {4}| {8})(\\w[\\w\\[\\] ]* )?(\\w+)\\([^;={}()\\n]*\\)\\s*\\{\\n").matcher(code);
+        Map<String, String> methods = new HashMap<>();
         while (opening.find()) {
+            String name = opening.group(3);
             int end = code.indexOf("\n" + opening.group(1) + "}\n", opening.end() - 1);
-            int lines = (int) code.substring(opening.start() + 1, end).chars().filter(c -> c == '\n').count() + 1;
-            due(opening.group(2) + " short", lines <= 60, true);
-            methods++;
+            String body = code.substring(opening.end() - 1, end);
+            due(name + " short", body.chars().filter(c -> c == '\n').count() + 2 <= 60, true);
+            methods.merge(name, body, (one, more) -> one + "\n" + more);
         }
-        due("methods found", methods > 60, true);
+        return methods;
+    }
+
+    private static final Set<String> BEFORE_PARENTHESES = Set.of("if", "for", "while", "switch", "return");
+
+    private static final Set<String> LIBRARY = Set.of("abs", "max", "bitCount");
+
+    private static final int STILL_OPEN = 0;
+
+    /** How many are open at once from this one on; calls of one that is open would be recursion. */
+    private static int openFrom(String name, Map<String, String> methods, Map<String, Integer> known) {
+        if (!known.containsKey(name)) {
+            known.put(name, STILL_OPEN);
+            int further = 0;
+            for (String called : callsOf(methods, name)) {
+                further = Math.max(further, openFrom(called, methods, known));
+            }
+            known.put(name, 1 + further);
+        }
+        due(name + " called while it is open", known.get(name) == STILL_OPEN, false);
+        return known.get(name);
+    }
+
+    /** Of methods of the class; of the library's, it calls those alone that are named here. */
+    private static Set<String> callsOf(Map<String, String> methods, String name) {
+        Set<String> calls = new TreeSet<>();
+        Matcher call = Pattern.compile("\\b(\\w+)\\s*\\(").matcher(methods.get(name));
+        while (call.find()) {
+            if (methods.containsKey(call.group(1))) {
+                calls.add(call.group(1));
+            } else if (!BEFORE_PARENTHESES.contains(call.group(1))) {
+                due(call.group(1) + " of the library, called by " + name, LIBRARY.contains(call.group(1)), true);
+            }
+        }
+        return calls;
     }
 
     /** All is made in the constructor: 512 calls more need no room to speak of. */
@@ -164,5 +237,35 @@ public final class LanguageTests {
             x.undo();
             x.undo();
         }
+    }
+
+    /** Any calls with any arguments, also far beyond what an object is used for: none throws, each ends. */
+    private static void anyArguments() throws Exception {
+        Method[] methods = WeighingDesign.class.getDeclaredMethods();
+        Arrays.sort(methods, Comparator.comparing(Method::getName));
+        int[] usual = {0, 1, 2, 3, 4, 5, 8, 16};
+        int[] wild = {Integer.MIN_VALUE, Integer.MIN_VALUE + 1, -100001, -100000, -32, -2, -1, 6, 7, 11, 12, 13,
+            14, 15, 16, 30, 31, 32, 48, 49, 58, 59, 61, 126, 127, 100000, 100001, 65536, 715827883, Integer.MAX_VALUE};
+        long seed = 9;
+        WeighingDesign x = new WeighingDesign();
+        int whole = 0;
+        for (int n = 0; n < 300000; n++) {
+            seed = seed * 6364136223846793005L + 1442695040888963407L;
+            Method m = methods[(int) (seed >>> 33) % methods.length];
+            if (Modifier.isPublic(m.getModifiers()) && (!m.getName().startsWith("drop") || n % 4 == 0)) {
+                Object[] arguments = new Object[m.getParameterCount()];
+                for (int i = 0; i < arguments.length; i++) {
+                    seed = seed * 6364136223846793005L + 1442695040888963407L;
+                    int choice = (int) (seed >>> 33) % 200;
+                    arguments[i] = choice < wild.length ? wild[choice] : usual[choice % usual.length];
+                }
+                m.invoke(x, arguments);
+                whole += x.count(5);
+            }
+        }
+        due("often whole", whole > 10000, true);
+        due("rows beyond twelve", x.count(3) > 12, false);
+        due("states beyond five", x.count(11) > 5, false);
+        due("characters beyond eighty", x.count(12) > 80, false);
     }
 }

@@ -2,8 +2,10 @@
 // inputs. The answers that are due are worked out by hand.
 public final class PromiseTests extends Checks {
     public static void main(String[] args) {
+        exampleOfReadme();
         constants();
         newObject();
+        objectsInTurn();
         set();
         addRow();
         dropRow();
@@ -38,6 +40,28 @@ public final class PromiseTests extends Checks {
         finish();
     }
 
+    /** The calls that README.md shows, with the answers that it tells. */
+    private static void exampleOfReadme() {
+        about = "README.md";
+        WeighingDesign design = new WeighingDesign();
+        int row = design.addRow(1, 2);
+        due("take(row, 10)", design.take(row, 10), 0);
+        due("take(row, 13)", design.take(row, 13), 1);
+        for (char c : "0:2=20;0:3=30;0:4=40;".toCharArray()) {
+            design.type(c);
+        }
+        due("fault(0)", design.fault(0), NOTHING);
+        due("enter()", design.enter(), 3);
+        due("count(5)", design.count(5), 1);
+        dueValue(design, 1, -23, 2);
+        due("residual(row, 0, 0)", design.residual(row, 0, 0), -3);
+        due("worst(1)", design.worst(1), 0);
+        due("row(row, 4)", design.row(row, 4), 1);
+        due("chain(4)", design.chain(4), 1);
+        due("undo()", design.undo(), 3);
+        due("value(1, 0)", design.value(1, 0), IMPOSSIBLE);
+    }
+
     private static void constants() {
         about = "constants";
         due("INVALID_ARGUMENT", WeighingDesign.INVALID_ARGUMENT, INVALID);
@@ -58,6 +82,32 @@ public final class PromiseTests extends Checks {
         due("undo()", x.undo(), IMPOSSIBLE);
         weigh(x, 1, 2, 5);
         due("count(3) of another one", new WeighingDesign().count(3), 0);
+    }
+
+    /** Whatever is done with one object, nothing that another one has becomes different by it. */
+    private static void objectsInTurn() {
+        about = "promise 1, objects in turn";
+        WeighingDesign x = star(10, 13);
+        typeAll(x, "0:1=5;02:3=-4;");
+        x.set(0, 8);
+        String before = look(x);
+        WeighingDesign y = fullDesign();
+        typeAll(y, "2:3=77777;4:");
+        y.set(0, -9);
+        y.set(1, 1);
+        y.set(2, 3);
+        String other = look(y);
+        dueSame("calls on another object", look(x), before);
+        due("enter()", x.enter(), 2);
+        due("undo()", x.undo(), 4);
+        x.clearText();
+        typeAll(x, "0:1=6;");
+        dueSame("calls on another object", look(y), other);
+        due("enter()", x.enter(), 1);
+        due("reading(0, 2)", x.reading(0, 2), 6);
+        due("undo() of the other one", y.undo(), 4);
+        due("count(2) of the other one", y.count(2), 100);
+        due("count(11)", x.count(11), 5);
     }
 
     private static void set() {
@@ -124,7 +174,15 @@ public final class PromiseTests extends Checks {
         due("reading(1, 2)", x.reading(1, 2), 5);
         due("reading(0, 1)", x.reading(0, 1), 8);
         due("find(2, 4)", x.find(2, 4), NOTHING);
+        due("find(4, 8)", x.find(4, 8), 1);
         due("count(4)", x.count(4), 5);
+        weigh(x, 8, 4, 6);
+        due("row(2, 3)", x.row(2, 3), 1);
+        due("dropRow(0)", x.dropRow(0), 2);
+        due("row(0, 3) after a row ahead is gone", x.row(0, 3), 1);
+        due("row(1, 3) after a row ahead is gone", x.row(1, 3), 0);
+        due("undo()", x.undo(), 4);
+        due("dropRow(2)", x.dropRow(2), 2);
         due("dropRow(1)", x.dropRow(1), 1);
         due("dropRow(0)", x.dropRow(0), 0);
         due("dropRow(0) without rows", x.dropRow(0), INVALID);

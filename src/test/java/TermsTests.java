@@ -13,6 +13,7 @@ public final class TermsTests extends Checks {
         sixReadingsAtMost();
         readingsInTheirOrder();
         panSetting();
+        leastSquares();
         wholeByReadings();
         wholeByRows();
         wholeWithThePan();
@@ -287,6 +288,113 @@ public final class TermsTests extends Checks {
         duePan(x, 0, 1);
     }
 
+    // "the reading minus the sum, over all masses, of sign * deviation, and minus the pan difference
+    // with the pan 1", and "for which the sum of the squares of the residuals of all readings is least"
+    private static void leastSquares() {
+        about = "least squares";
+        for (int pan = 0; pan < 2; pan++) {
+            dueLeast(scattered(pan));
+            WeighingDesign x = loop(7);
+            weigh(x, 28, 3, -40, 41);
+            x.set(0, 333);
+            x.set(1, pan);
+            dueLeast(x);
+        }
+    }
+
+    /** Twelve rows of three readings that are far from each other. */
+    private static WeighingDesign scattered(int pan) {
+        WeighingDesign x = new WeighingDesign();
+        x.set(1, pan);
+        x.set(0, -12345);
+        for (int row = 0; row < 12; row++) {
+            weigh(x, TWELVE[row][0], TWELVE[row][1], 17 * row - 90, row * row, -100000 + row);
+        }
+        return x;
+    }
+
+    /**
+     * All is counted in parts of a unit: as many as make all values whole. The unknown numbers are
+     * moved by a part or by a unit, each of them up, down or not: no sum of squares is as small then.
+     */
+    private static void dueLeast(WeighingDesign x) {
+        BigInteger parts = BigInteger.valueOf(x.pan(1));
+        for (int mass = 1; mass < 5; mass++) {
+            parts = parts.multiply(BigInteger.valueOf(x.value(mass, 1)));
+        }
+        BigInteger[] unknown = new BigInteger[5];
+        for (int mass = 1; mass < 5; mass++) {
+            unknown[mass - 1] = inParts(x.value(mass, 0), x.value(mass, 1), parts);
+        }
+        unknown[4] = inParts(x.pan(0), x.pan(1), parts);
+        int[][] readings = factorsAndReadings(x);
+        BigInteger least = sumOfSquares(readings, unknown, parts);
+        dueSquares(x, least, parts);
+        int moves = x.count(1) == 1 ? 243 : 81;
+        for (int move = 1; move < moves; move++) {
+            for (BigInteger step : new BigInteger[] {BigInteger.ONE, parts}) {
+                BigInteger more = sumOfSquares(readings, moved(unknown, move, step), parts);
+                due("the sum of squares moved by " + move + " is greater", more.compareTo(least) > 0 ? 1 : 0, 1);
+            }
+        }
+    }
+
+    private static BigInteger inParts(long above, long below, BigInteger parts) {
+        return BigInteger.valueOf(above).multiply(parts).divide(BigInteger.valueOf(below));
+    }
+
+    /** For each reading: the signs of the masses 1 to 4, 1 with the pan 1, and the reading without the standard. */
+    private static int[][] factorsAndReadings(WeighingDesign x) {
+        int[][] all = new int[x.count(4)][6];
+        int at = 0;
+        for (int row = 0; row < x.count(3); row++) {
+            int left = x.row(row, 0);
+            int right = x.row(row, 1);
+            for (int n = 0; n < x.row(row, 2); n++) {
+                for (int mass = 1; mass < 5; mass++) {
+                    all[at][mass - 1] = (left >> mass & 1) - (right >> mass & 1);
+                }
+                all[at][4] = x.count(1);
+                all[at][5] = x.reading(row, n) - ((left & 1) - (right & 1)) * x.count(0);
+                at++;
+            }
+        }
+        return all;
+    }
+
+    private static BigInteger sumOfSquares(int[][] readings, BigInteger[] unknown, BigInteger parts) {
+        BigInteger sum = BigInteger.ZERO;
+        for (int[] reading : readings) {
+            BigInteger residual = BigInteger.valueOf(reading[5]).multiply(parts);
+            for (int i = 0; i < 5; i++) {
+                residual = residual.subtract(unknown[i].multiply(BigInteger.valueOf(reading[i])));
+            }
+            sum = sum.add(residual.multiply(residual));
+        }
+        return sum;
+    }
+
+    /** The digits of the move to the base 3 tell it: 0 stays, 1 goes up, 2 goes down. */
+    private static BigInteger[] moved(BigInteger[] unknown, int move, BigInteger step) {
+        BigInteger[] moved = unknown.clone();
+        for (int i = 0, rest = move; i < 5; i++, rest /= 3) {
+            moved[i] = rest % 3 == 1 ? moved[i].add(step) : rest % 3 == 2 ? moved[i].subtract(step) : moved[i];
+        }
+        return moved;
+    }
+
+    /** The residuals that are told are those that were squared. */
+    private static void dueSquares(WeighingDesign x, BigInteger least, BigInteger parts) {
+        BigInteger sum = BigInteger.ZERO;
+        for (int row = 0; row < x.count(3); row++) {
+            for (int n = 0; n < x.row(row, 2); n++) {
+                BigInteger residual = inParts(x.residual(row, n, 0), x.residual(row, n, 1), parts);
+                sum = sum.add(residual.multiply(residual));
+            }
+        }
+        due("the residuals' sum of squares is the least", sum.equals(least) ? 1 : 0, 1);
+    }
+
     // "The design is whole if there is just one such set of numbers; otherwise there are no values."
     private static void wholeByReadings() {
         about = "whole by readings";
@@ -382,12 +490,7 @@ public final class TermsTests extends Checks {
     private static void sumsOfResiduals() {
         about = "sums of residuals";
         for (int pan = 0; pan < 2; pan++) {
-            WeighingDesign x = new WeighingDesign();
-            x.set(1, pan);
-            x.set(0, -12345);
-            for (int row = 0; row < 12; row++) {
-                weigh(x, TWELVE[row][0], TWELVE[row][1], 17 * row - 90, row * row, -100000 + row);
-            }
+            WeighingDesign x = scattered(pan);
             for (int mass = 1; mass < 5; mass++) {
                 dueBalance(x, mass, 0, 1);
             }
